@@ -43,6 +43,13 @@ public final class SwapCalls {
     private static final int CAUSE_READ = 2;
     private static final int CAUSE_THROWS = 4;
 
+    private static final int TOLD_ROUTINE = 0;
+    private static final int TOLD_GIVEN = 1;
+    private static final int TOLD_STAGE = 2;
+    private static final int TOLD_PARTS = 4;
+
+    private static final int STAGES_LIKE_IMAGE = 6;
+
     private static final int IN_ORDER = 0;
     private static final int BY_STAGES = 1;
     private static final int BY_RANKS = 2;
@@ -192,26 +199,26 @@ public final class SwapCalls {
         if (!within(call, program.size)) {
             return UNKNOWN;
         }
-        if (!within(what, 4)) {
+        if (!within(what, TOLD_PARTS)) {
             return OUTSIDE;
         }
-        if (what == 0) {
+        if (what == TOLD_ROUTINE) {
             return program.routine[call];
         }
-        if (what == 1) {
+        if (what == TOLD_GIVEN) {
             return program.given[call];
         }
         if (!layProgram()) {
             return NO;
         }
-        return what == 2 ? layout.stage[call] : layout.rank[call];
+        return what == TOLD_STAGE ? layout.stage[call] : layout.rank[call];
     }
 
     public int stages(int what) {
-        if (!within(what, 7)) {
+        if (what < 0 || what > STAGES_LIKE_IMAGE) {
             return OUTSIDE;
         }
-        if (what == 6 && !images[0].kept) {
+        if (what == STAGES_LIKE_IMAGE && !images[0].kept) {
             return STATE;
         }
         if (!layProgram()) {
@@ -914,12 +921,9 @@ public final class SwapCalls {
                 }
                 steps++;
                 int place = placeOf(text.spot[s], given);
-                int end = ENDED;
-                if (text.kind[s] == KIND_CALL) {
-                    end = doRoutine(routines, text.callee[s], place - NUMBERS, nesting + 1);
-                } else {
-                    end = doSimple(text, s, place, given);
-                }
+                int end = text.kind[s] == KIND_CALL
+                        ? doRoutine(routines, text.callee[s], place - NUMBERS, nesting + 1)
+                        : doSimple(text, s, place, given);
                 if (end != ENDED) {
                     return end;
                 }
