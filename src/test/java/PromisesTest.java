@@ -188,6 +188,13 @@ public final class PromisesTest {
         due("15 tests", faultOf("?a?b?c?d?e?f?a?b?c?d?e?f?a?b?c"), NONE);
         due("14 tests and a beginning", faultOf("?a?b?c?d?e?f?a?b?c?d?e?f?a?b=c"), 30);
         due("a fault in the last sign", faultOf("?a?b?c?d?e?f?a?b?c?d?e?f?a?b?g"), 29);
+        // What was wiped does not stand behind what is said anew.
+        String[][] anew = {{"c0p", "c"}, {"c0p", "c0"}, {"c0>p", "c0>"}, {"=a~11", "=a~1"}, {"=a1", "=a"}, {"=a1", "="}, {"?a", "?"}, {"#>>p1", "#>"}};
+        for (String[] texts : anew) {
+            SwapCalls y = with(texts[0]);
+            tell(y, 0, texts[1]);
+            due("fault of " + texts[1] + ", once " + texts[0], y.fault(0), texts[1].length());
+        }
         SwapCalls x = with("", "=g");
         due("its own", x.fault(1), 1);
         due("not of another", x.fault(0), NONE);
@@ -267,6 +274,14 @@ public final class PromisesTest {
         dueEffect(x, 3, 7, "", "1 3 5 7 9 11", "", 0);
         dueEffect(x, 4, 6, "a c", "", "b", 1);
         dueEffect(x, 5, 6, "a c", "", "b", 1);
+        tell(x, 3, "^p1c3>p");
+        dueEffect(x, 3, 4, "", "", "0 1 2 3 4 5 6 7 8 9 10 11", 0);
+        // The throw comes from far away, and nothing else with it that is new.
+        SwapCalls far = with("=bac1p", "=bac2p", "=bac3p", "=bac4p", "=bac5p", "=ba?a");
+        for (int r = 0; r < 6; r++) dueEffect(far, r, r, "a", "b", "", 1);
+        // What was wiped has no effect.
+        tell(far, 5, "?c");
+        dueEffect(far, 5, 0, "c", "", "", 1);
         // Given a fixed number, the caller's own number does not matter.
         SwapCalls y = with("c14", "#p1", "c2p", "c3pc4p", "c5p", "=g");
         dueEffect(y, 0, 0, "", "4", "", 0);
