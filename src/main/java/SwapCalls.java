@@ -258,13 +258,13 @@ public final class SwapCalls {
     }
 
     public int thrower(int how, int i) {
-        if (how < IN_ORDER || how > BY_RANKS || i < 0) {
+        if (how < IN_ORDER || how > BY_RANKS) {
             return OUTSIDE;
         }
         if (!perform(how)) {
             return STATE;
         }
-        return i < machine.throwCount ? machine.throwers[i] : NONE;
+        return within(i, machine.throwCount) ? machine.throwers[i] : NONE;
     }
 
     public int commit() {

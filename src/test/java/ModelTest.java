@@ -199,7 +199,7 @@ public final class ModelTest {
                 case 10: return told(a, b);
                 case 11: return stages(a);
                 case 12: return bad(a, 3) || bad(b, 20) ? -2 : !run(a) ? -3 : b < 18 ? held[b] : b == 18 ? throwers.size() : allSteps;
-                case 13: return bad(a, 3) || b < 0 ? -2 : !run(a) ? -3 : b < throwers.size() ? throwers.get(b) : -6;
+                case 13: return bad(a, 3) ? -2 : !run(a) ? -3 : bad(b, throwers.size()) ? -6 : throwers.get(b);
                 case 14: { if (!run(0)) return -3; places = held; program = new ArrayList<>(); return throwers.size(); }
                 case 15: { if (bad(a, 2)) return -2; kept[a] = new Kept(places.clone(), new ArrayList<>(program)); return 1; }
                 case 16: { if (bad(a, 2)) return -2; if (kept[a] == null) return -3; places = kept[a].places.clone(); program = new ArrayList<>(kept[a].program); return 1; }

@@ -657,7 +657,8 @@ public final class PromisesTest {
             due("no more", x.thrower(how, 4), NONE);
             due("no more", x.thrower(how, 16), NONE);
             due("no more", x.thrower(how, Integer.MAX_VALUE), NONE);
-            due("-1", x.thrower(how, -1), OUTSIDE);
+            due("none below the first", x.thrower(how, -1), NONE);
+            due("none below the first", x.thrower(how, Integer.MIN_VALUE), NONE);
         }
         due("how 3", x.thrower(3, 0), OUTSIDE);
         due("how -1", x.thrower(-1, 0), OUTSIDE);
@@ -665,8 +666,11 @@ public final class PromisesTest {
         x.call(5, 0);
         due("a fault", x.thrower(0, 0), STATE);
         due("a fault, none anyway", x.thrower(0, 99), STATE);
+        due("a fault, none below the first anyway", x.thrower(0, -1), STATE);
         due("outside is told first", x.thrower(3, 0), OUTSIDE);
+        due("outside, none below the first anyway", x.thrower(3, -1), OUTSIDE);
         due("empty", new SwapCalls().thrower(1, 0), NONE);
+        due("empty, below the first", new SwapCalls().thrower(0, -1), NONE);
         SwapCalls y = with("?a");
         for (int i = 0; i < 16; i++) y.call(0, i % 12);
         for (int i = 0; i < 16; i++) due("all throw", y.thrower(1, i), i);
