@@ -195,6 +195,10 @@ public final class PromisesEdgesTest extends Sentences {
             tell(x, 0, pair[1]);
             due("fault of " + pair[1] + ", once " + pair[0], x.fault(0), pair[1].length());
         }
+        SwapCalls shorter = with("c1pc2p", "=a1", "=b1");
+        tell(shorter, 0, "c1p");
+        dueEffect(shorter, 0, 0, "", "a", "", 0);
+        due("callees", shorter.count(30), 2);
         SwapCalls x = with("?a=bc+d1c1p", "#p1");
         dueEffect(x, 0, 11, "a c", "b 11", "d", 1);
         x.wipe(1);
